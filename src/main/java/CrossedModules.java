@@ -265,7 +265,7 @@ public final class CrossedModules {
     public int kinds() throws IllegalStateException {
         demandText();
         int n = 0;
-        for (int k = 0; world.moduleNames.has(k); k++) {
+        for (int k = 0; k < MOST_MODULES && world.moduleNames.has(k); k++) {
             Crossed m = world.modules[k];
             n += m.reason == 0 && world.firstLike(m) == k ? 1 : 0;
         }
@@ -1270,10 +1270,10 @@ public final class CrossedModules {
 
         /** Reckons what the calls ask for over and over, once the whole text is read. */
         void settle() {
-            for (int k = 0; k < groupNames.total; k++) {
+            for (int k = 0; k < groupNames.total && k < groups.length; k++) {
                 groups[k].findOpposites();
             }
-            for (int k = 0; k < moduleNames.total; k++) {
+            for (int k = 0; k < moduleNames.total && k < modules.length; k++) {
                 modules[k].reason = modules[k].firstReason();
             }
         }
@@ -1295,7 +1295,7 @@ public final class CrossedModules {
 
         int lawfulModules() {
             int set = 0;
-            for (int k = 0; k < moduleNames.total; k++) {
+            for (int k = 0; k < moduleNames.total && k < modules.length; k++) {
                 set |= modules[k].reason == 0 ? 1 << k : 0;
             }
             return set;
@@ -1303,7 +1303,7 @@ public final class CrossedModules {
 
         int firstLike(Crossed m) {
             Pair pair = m.freshPair();
-            for (int k = 0; k < m.number; k++) {
+            for (int k = 0; k < m.number && k < modules.length; k++) {
                 if (modules[k].reason == 0 && modules[k].freshPair().matches(pair)) {
                     return k;
                 }
@@ -1313,7 +1313,7 @@ public final class CrossedModules {
 
         int equivalenceSet() {
             int set = 0;
-            for (int k = 0; k < arrowNames.total; k++) {
+            for (int k = 0; k < arrowNames.total && k < arrows.length; k++) {
                 set |= arrows[k].joinsAlikePairs() ? 1 << k : 0;
             }
             return set;
@@ -1322,7 +1322,7 @@ public final class CrossedModules {
         /** The modules of a set and those that one of these arrows joins with them. */
         int oneStepFrom(int set, int joining) {
             int wider = set;
-            for (int k = 0; k < arrowNames.total; k++) {
+            for (int k = 0; k < arrowNames.total && k < arrows.length; k++) {
                 int from = arrows[k].from.number;
                 int to = arrows[k].to.number;
                 if (isIn(joining, k) && (isIn(set, from) || isIn(set, to))) {

@@ -113,6 +113,11 @@ public final class LanguageTests {
             Checks.judge("6 throw " + thrown.group(1), "true", String.valueOf(thrown.group(1).matches(
                     "new (IllegalState|IllegalArgument|IndexOutOfBounds)Exception\\(\"\"\\)")));
         }
+        Matcher loops = Pattern.compile("\\b(for|while) \\(.*\\{").matcher(bare);
+        while (loops.find()) {
+            Checks.judge("9 the bound of " + loops.group(), "true",
+                    String.valueOf(loops.group().matches(".*( [<>]=? | : ).*")));
+        }
         for (int i = 0; i < text.length(); i++) {
             if (text.charAt(i) > 126) {
                 Checks.judge("a sign beyond 126 at " + i, "none", String.valueOf((int) text.charAt(i)));
