@@ -53,6 +53,10 @@ public final class ArrowTests {
             Checks.due("43 isEquivalence " + k, equal[k], () -> Checks.bit(x.isEquivalence(arrow)));
         }
         Checks.due("44 equivalences", 4, x::equivalences);
+        CrossedModules y = Checks.loaded("crossed;group c cyclic 3;group s dihedral 3;group t cyclic 1"
+                + ";module m c s 0 0 0;act m 3 0 2 1;act m 4 0 2 1;act m 5 0 2 1;module n c t 0 0 0"
+                + ";arrow f m n 0 1 2 0 0 0 0 0 0");
+        Checks.due("42 the later lower elements alone are not kept", 5, () -> y.arrowWhy(0));
     }
 
     /** Each arrow but the first lacks one thing that an equivalence has. */
@@ -74,6 +78,10 @@ public final class ArrowTests {
         x.setBoundary(4, 1, 1);
         Checks.due("43 a broken arrow is none", 0, () -> Checks.bit(x.isEquivalence(5)));
         Checks.due("44 one is left", 1, x::equivalences);
+        CrossedModules y = Checks.loaded("crossed;group a cyclic 4;group b cyclic 2;group t cyclic 1"
+                + ";module m a b 0 1 0 1;module o b t 0 0;arrow f m o 0 1 0 1 0 0");
+        Checks.due("42 a smaller upper group", 0, () -> y.arrowWhy(0));
+        Checks.due("43 a later element of the kernel has the top of the unit", 0, () -> Checks.bit(y.isEquivalence(0)));
     }
 
     /** Modules 0 to 4 in a row with arrows both ways round, 5 apart; arrow 0 closes a ring of 0, 1 and 2. */

@@ -56,6 +56,9 @@ public final class ModuleTests {
         Checks.due("20 b on k of the image does nothing", 0, () -> x.why(3));
         Checks.due("20 the boundary of g on h is another one", 4, () -> x.why(4));
         Checks.due("21 these", 13, x::lawful);
+        CrossedModules y = Checks.loaded("crossed;group s dihedral 3;group b cyclic 2"
+                + ";module m s b 0 0 0 0 0 0;act m 1 0 1 2 4 5 3");
+        Checks.due("20 the square of g turns the later elements alone", 3, () -> y.why(0));
     }
 
     private static void lookups() {
